@@ -124,6 +124,7 @@ public final class DeedsTest {
         checks.due("outside comes first", x.pick(0, 0), OUTSIDE);
         checks.due("undo", x.undo(30), 9000);
         checks.due("9000 again", x.pick(0, 1), 9001);
+        checks.due("9001 is above", x.pick(0, 1), FULL);
         checks.promise(14);
         checks.due("drift above", x.drift(1), FULL);
         checks.due("drift outside", x.drift(31), OUTSIDE);

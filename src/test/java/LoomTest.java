@@ -274,6 +274,13 @@ public final class LoomTest {
         y.pick(1, 1);
         checks.due("0 and nothing are not alike", y.told(6), 2);
         checks.due("no row is like the latest", y.told(7), 3);
+        CardBand w = Checks.woven("l2;c0 0 1 0 0;c0 1 1 0 0;c1 1 1 1 0;c0 0 1 0 0;c0 0 1 0 0;k31;");
+        w.pick(1, 1);
+        checks.due("00100", w.told(6), 1);
+        w.pick(1, 1);
+        checks.due("01100 is not, by its inner cards", w.told(6), 1);
+        w.pick(1, 1);
+        checks.due("11111", w.told(6), 2);
         CardBand z = Checks.woven("l1;");
         z.pick(0, 2);
         checks.due("no cards: mirrored", z.told(6), 2);
