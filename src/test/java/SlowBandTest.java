@@ -1,6 +1,6 @@
 /** Runs of drawn calls, ordinary, at the edges and wrong ones, on the class and on the slow one. */
 public final class SlowBandTest {
-    private static final int RUNS = 700, CALLS = 512;
+    private static final int RUNS = 4000, CALLS = 512, COMPARING = 14 + 8 * 37;
     private static final int[] ODD = {
         Integer.MIN_VALUE, -1000000001, -2, -1, 0, 1, 2, 3, 4, 7, 8, 9, 10, 13, 14, 22, 23, 24, 30, 31,
         80, 81, 99, 100, 255, 256, 999, 1000, Integer.MAX_VALUE};
@@ -30,7 +30,10 @@ public final class SlowBandTest {
         String told = drawText();
         feedBoth(x, y, told);
         checks.due("run " + run + ": loom of " + told, x.loom(), y.loom());
-        int calls = CALLS - 1 - told.length();
+        // an object answers for 512 calls only: some are left for comparing all
+        boolean compared = run % 4 != 0;
+        int calls = CALLS - 1 - told.length() - (compared ? COMPARING : 0);
+        String name = "";
         while (calls-- > 0) {
             int call = CALLS - calls;
             int which = draw(NAMES.length);
@@ -48,11 +51,11 @@ public final class SlowBandTest {
             int a = drawFor(y, which, 0);
             int b = drawFor(y, which, 1);
             int c = drawFor(y, which, 2);
-            String name = "run " + run + ", call " + call + ": " + NAMES[which] + "(" + a + ", " + b + ", " + c + ")";
+            name = "run " + run + ", call " + call + ": " + NAMES[which] + "(" + a + ", " + b + ", " + c + ")";
             checks.due(name, answer(x, which, a, b, c), slowAnswer(y, which, a, b, c));
-            if (draw(12) == 0) {
-                compareAll(name, x, y);
-            }
+        }
+        if (compared) {
+            compareAll(name, x, y);
         }
     }
 
