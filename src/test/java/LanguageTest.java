@@ -5,8 +5,11 @@ import java.lang.reflect.Modifier;
 import java.nio.charset.StandardCharsets;
 import java.nio.file.Files;
 import java.nio.file.Path;
+import java.util.ArrayList;
 import java.util.List;
+import java.util.Map;
 import java.util.Set;
+import java.util.TreeMap;
 import java.util.TreeSet;
 import java.util.regex.Matcher;
 import java.util.regex.Pattern;
@@ -28,6 +31,7 @@ public final class LanguageTest {
         names();
         words(source);
         lengths(source);
+        depths(source);
         classes();
         checks.end();
     }
@@ -126,6 +130,63 @@ public final class LanguageTest {
                 begun = -1;
             }
         }
+    }
+
+    /**
+     * No call stands open more than eight deep, and none calls itself. Methods are told apart by their names
+     * alone, so what is found is at least as deep as what is so. None makes an object: constructors make all.
+     */
+    private static void depths(String source) {
+        Map<String, Set<String>> calls = new TreeMap<>();
+        String name = null;
+        for (String line : source.replaceAll("(?s)/\\*.*?\\*/", " ").replaceAll("//[^\n]*", " ").split("\n")) {
+            Matcher head = Pattern.compile("^(?: {4}| {8})(?:\\w+(?:\\[\\])? )+(\\w+)\\([^;]*\\) \\{$").matcher(line);
+            Matcher call = Pattern.compile("\\b(\\w+)\\(").matcher(line);
+            if (line.matches(".*\\bclass \\w+ \\{|\\s*(public )?[A-Z]\\w*\\(.*\\) \\{")) {
+                name = null;
+                continue;
+            }
+            if (head.matches()) {
+                name = head.group(1);
+                calls.computeIfAbsent(name, key -> new TreeSet<>());
+                continue;
+            }
+            good(name + " makes nothing: " + line, name == null || !line.matches(".*\\bnew\\b.*"));
+            while (name != null && call.find()) {
+                calls.get(name).add(call.group(1));
+            }
+        }
+        Set<String> found = new TreeSet<>(calls.keySet());
+        good("all methods are found: " + found, found.equals(methodNames()));
+        for (String call : FACE) {
+            String open = call.substring(0, call.indexOf('('));
+            int depth = depthOf(open, calls, 1);
+            good(open + " goes eight deep at most: " + depth, depth <= 8);
+        }
+    }
+
+    private static Set<String> methodNames() {
+        List<Class<?>> classes = new ArrayList<>(List.of(CardBand.class.getDeclaredClasses()));
+        classes.add(CardBand.class);
+        Set<String> names = new TreeSet<>();
+        for (Class<?> one : classes) {
+            for (Method method : one.getDeclaredMethods()) {
+                if (!method.isSynthetic()) {
+                    names.add(method.getName());
+                }
+            }
+        }
+        return names;
+    }
+
+    private static int depthOf(String name, Map<String, Set<String>> calls, int depth) {
+        int deepest = depth;
+        for (String inner : calls.getOrDefault(name, Set.of())) {
+            if (calls.containsKey(inner) && depth < 20) {
+                deepest = Math.max(deepest, depthOf(inner, calls, depth + 1));
+            }
+        }
+        return deepest;
     }
 
     private static int indent(String line) {
